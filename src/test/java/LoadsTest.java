@@ -13,7 +13,9 @@ public final class LoadsTest {
         settleAmongEquals();
         settleMinds();
         settleOfMany();
+        settleTriesAll();
         harmless();
+        harmlessAsThingsAreNow();
         swap();
         airline();
         blame();
@@ -213,6 +215,28 @@ public final class LoadsTest {
             CHECKS.due("21: way of " + (5 + i), x.told(5 + i, 5), ways[i]);
             CHECKS.due("21: delay of " + (5 + i), x.told(5 + i, 6), delays[i]);
         }
+    }
+
+    private static void settleTriesAll() {
+        RoomsOfAir x = Checks.withText("bear 0 1;flight 0 1 0 1 way 0 1;flight 1 1 0 5 way 0 1;flight 2 1 0 9 way 0 1;");
+        CHECKS.due("21: the first ones give way", x.settle(7), 7);
+        for (int i = 0; i < 3; i++) {
+            CHECKS.due("21: delay of " + i, x.told(i, 6), 2 - i);
+        }
+        RoomsOfAir y = Checks.withText("bear 0 0;bear 1 0;storm 1 2 0 44 0;flight 0 1 40 99 way 0 1 way 1 1 way 2 1;");
+        y.look(3);
+        CHECKS.due("21: the last way, the greatest delay", y.settle(1), 416);
+    }
+
+    private static void harmlessAsThingsAreNow() {
+        RoomsOfAir x = Checks.withText("bear 0 2;bear 1 0;storm 1 0 1 48 0;flight 0 2 0 0 way 0 1;flight 1 1 0 5 way 2 1;"
+            + "flight 2 9 0 9 way 1 4 way 3 1;");
+        x.choose(1, 0, 1);
+        x.look(2);
+        CHECKS.due("22: much is too much", x.all(0), 36);
+        x.choose(2, 1, 0);
+        CHECKS.due("22: more than now, less than then", x.harmless(0, 1), 0);
+        CHECKS.due("23: nor is it done", x.swap(), NONE);
     }
 
     private static void harmless() {

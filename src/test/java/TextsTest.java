@@ -99,6 +99,8 @@ public final class TextsTest {
         fault("flight 0 1 0 0;", 14, 1);
         fault("flight 0 1 0 0 0 1;", 15, 1);
         fault("flight 0 1 0 0 bear 0 1;", 15, 1);
+        fault("flight 0 1 0 0 wayz 0 1;", 15, 1);
+        fault("flight 0 1 0 0 waya 0 1;", 15, 1);
         fault("flight 0 1 0 0 way 8 1;", 19, 2);
         fault("flight 0 1 0 0 way 0 0;", 21, 2);
         fault("flight 0 1 0 0 way 0 5;", 21, 2);
@@ -152,6 +154,11 @@ public final class TextsTest {
         CHECKS.due("12: the latest stays", x.fault(), 2);
         Checks.readText(x, "x");
         CHECKS.due("12: a later one", x.fault(), 1);
+        Checks.readText(x, "flight 1 2 3 4 way 5 1,5 1 way 5 1");
+        CHECKS.due("11: a flight where one had a fault", Checks.readText(x, "flight 1 2 3 4 way 6 1;"), 2);
+        CHECKS.due("13: its own ways alone", x.told(1, 4), 1);
+        CHECKS.due("14: its own leg", x.leg(1, 0, 0, 0), 6);
+        CHECKS.due("14: its own legs alone", x.leg(1, 0, 1, 0), NONE);
     }
 
     private static void told() {
