@@ -117,7 +117,6 @@ public final class LoadsTest {
         }
         CHECKS.due("20: harm of equals", x.split(NONE), 2);
         RoomsOfAir y = Checks.withText("bear 1 2;flight 0 3 40 0 way 0 4,0 3,1 1;");
-        x.look(1);
         Checks.putSheet(y, 0, 9);
         y.staff(47, 0, 0, 1);
         CHECKS.due("20: no change behind the last slot", y.split(NONE), 1);
