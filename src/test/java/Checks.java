@@ -1,13 +1,33 @@
+import java.util.function.IntUnaryOperator;
+
 /** Counts answers that are not due, and tells each of them. */
 final class Checks {
+    private String heading = "";
     private int wrong = 0;
     private int asked = 0;
+
+    /** What is told of wrong answers from now on begins with this. */
+    void under(String newHeading) {
+        heading = newHeading;
+    }
 
     void due(String what, long got, long want) {
         asked++;
         if (got != want) {
             wrong++;
-            System.out.println(what + " answered " + got + ", due is " + want);
+            System.out.println(heading + what + " answered " + got + ", due is " + want);
+        }
+    }
+
+    /** From least to most the call is not refused; next to them, and far off, it is. */
+    void takesOnly(String what, int least, int most, int refusal, IntUnaryOperator call) {
+        for (int v = least; v <= most; v++) {
+            holds(what + " " + v + " is taken", call.applyAsInt(v) != refusal);
+        }
+        int[] beyond = {least - 1, least - 2, least - 256, most + 1, most + 2, most + 256, most + 65536,
+            Integer.MIN_VALUE, Integer.MIN_VALUE + 1, Integer.MAX_VALUE - 1, Integer.MAX_VALUE};
+        for (int v : beyond) {
+            due(what + " " + v, call.applyAsInt(v), refusal);
         }
     }
 

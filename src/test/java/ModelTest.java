@@ -4,12 +4,15 @@ import java.util.Random;
 public final class ModelTest {
     private static final int NONE = RoomsOfAir.NONE;
     private static final int[] EDGES = {-1, -2, 48, 49, 100, 500, NONE, RoomsOfAir.BAD, Integer.MIN_VALUE, Integer.MAX_VALUE};
+    /** What later calls of an object answer is free. */
+    private static final int MOST_CALLS = 512;
     private static final Checks CHECKS = new Checks();
 
     private final Random random;
     private final RoomsOfAir air = new RoomsOfAir();
     private final PlainModel model = new PlainModel();
     private final String run;
+    private int calls = 0;
 
     private ModelTest(int seed) {
         random = new Random(seed);
@@ -18,7 +21,7 @@ public final class ModelTest {
 
     public static void main(String[] args) {
         int from = args.length > 0 ? Integer.parseInt(args[0]) : 0;
-        int runs = args.length > 1 ? Integer.parseInt(args[1]) : 250;
+        int runs = args.length > 1 ? Integer.parseInt(args[1]) : 300;
         for (int seed = from; seed < from + runs; seed++) {
             new ModelTest(seed).runOnce();
         }
@@ -27,9 +30,9 @@ public final class ModelTest {
 
     private void runOnce() {
         int texts = 2 + random.nextInt(6);
-        for (int i = 0; i < texts; i++) {
+        for (int i = 0; i < texts && calls < MOST_CALLS; i++) {
             feedAndRead();
-            for (int k = 0; k < 25; k++) {
+            for (int k = 0; k < 25 && calls < MOST_CALLS; k++) {
                 anyCall();
             }
         }
@@ -39,7 +42,10 @@ public final class ModelTest {
     }
 
     private void due(String call, int got, int want) {
-        CHECKS.due(run + call, got, want);
+        calls++;
+        if (calls <= MOST_CALLS) {
+            CHECKS.due(run + call, got, want);
+        }
     }
 
     /** Mostly within 0 to most, now and then beyond it. */
@@ -52,7 +58,7 @@ public final class ModelTest {
     }
 
     private int flight() {
-        return about(Math.max(0, air.count(1) - 1));
+        return about(Math.max(0, model.count(1) - 1));
     }
 
     private void feedAndRead() {
@@ -278,7 +284,7 @@ public final class ModelTest {
         int bits = 1 << random.nextInt(13);
         int many = random.nextInt(random.nextInt(40) == 0 ? 6 : 3);
         for (int i = 0; i < many; i++) {
-            bits |= 1 << random.nextInt(Math.max(1, air.count(1)));
+            bits |= 1 << random.nextInt(Math.max(1, model.count(1)));
         }
         due("settle(" + bits + ")", air.settle(bits), model.settle(bits));
         allChoices();

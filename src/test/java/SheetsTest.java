@@ -20,12 +20,6 @@ public final class SheetsTest {
         for (int what = 0; what < counts.length; what++) {
             CHECKS.due("1: count(" + what + ")", x.count(what), counts[what]);
         }
-        for (int room = 0; room < 8; room++) {
-            for (int slot = 0; slot < 48; slot++) {
-                CHECKS.due("1: safe", x.safe(room, slot, RoomsOfAir.NONE), 9);
-                CHECKS.due("1: load", x.load(room, slot, 0), 0);
-            }
-        }
         for (int sheet = 0; sheet < 8; sheet++) {
             CHECKS.due("1: set", x.set(sheet, 0, 0), NULL);
         }
