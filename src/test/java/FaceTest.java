@@ -45,9 +45,16 @@ public final class FaceTest {
             }
         }
         checks.holds("methods " + there + " are " + wanted, there.equals(wanted));
-        for (Method method : RoomsOfAir.class.getDeclaredMethods()) {
-            boolean isPrivate = Modifier.isPrivate(method.getModifiers());
-            checks.holds(method + " has a name of its own", !isPrivate || !publicNames.contains(method.getName()));
+        hiddenNames(checks, RoomsOfAir.class, publicNames);
+        for (Class<?> inside : RoomsOfAir.class.getDeclaredClasses()) {
+            hiddenNames(checks, inside, publicNames);
+        }
+    }
+
+    private static void hiddenNames(Checks checks, Class<?> type, Set<String> publicNames) {
+        for (Method method : type.getDeclaredMethods()) {
+            boolean isHidden = type != RoomsOfAir.class || Modifier.isPrivate(method.getModifiers());
+            checks.holds(method + " has a name of its own", !isHidden || !publicNames.contains(method.getName()));
         }
     }
 
